@@ -95,7 +95,7 @@ public final class PartnerBooks {
 
     public int tiers() {
         Tiers fresh = new Tiers();
-        int told = fresh.readFrom(tape);
+        int told = fresh.readTiers(tape);
         tapeWasRead();
         if (told != NONE) {
             remember();
@@ -113,7 +113,7 @@ public final class PartnerBooks {
         if (k < 0 || k >= t.count || what < 0 || what > EIGHT) {
             return NO_TIER;
         }
-        return what == 0 ? t.sums[k] : t.weightOf(k, what - 1);
+        return what == 0 ? t.sums[k] : t.weights[k * EIGHT + what - 1];
     }
 
     public int sale(int n, int p) {
@@ -177,27 +177,27 @@ public final class PartnerBooks {
     }
 
     public int come(int p, int n) {
-        return deed(COME, p, n, NONE);
+        return begins(COME, p, n) ? perform(COME, p, n) : NONE;
     }
 
     public int go(int p) {
-        return deed(GO, p, 0, OUTSIDE);
+        return begins(GO, p, 0) ? perform(GO, p, 0) : OUTSIDE;
     }
 
     public int duty(int p, int n) {
-        return deed(DUTY, p, n, NONE);
+        return begins(DUTY, p, n) ? perform(DUTY, p, n) : NONE;
     }
 
     public int ratio(int p, int n) {
-        return deed(RATIO, p, n, NONE);
+        return begins(RATIO, p, n) ? perform(RATIO, p, n) : NONE;
     }
 
     public int pay(int p, int n) {
-        return deed(PAY, p, n, OUTSIDE);
+        return begins(PAY, p, n) ? perform(PAY, p, n) : OUTSIDE;
     }
 
     public int draw(int p, int n) {
-        return deed(DRAW, p, n, OUTSIDE);
+        return begins(DRAW, p, n) ? perform(DRAW, p, n) : OUTSIDE;
     }
 
     public int buy(int book, int market, int debt) {
@@ -211,31 +211,31 @@ public final class PartnerBooks {
     }
 
     public int sell(int i) {
-        return deed(SELL, i, 0, OUTSIDE);
+        return begins(SELL, i, 0) ? perform(SELL, i, 0) : OUTSIDE;
     }
 
     public int market(int i, int n) {
-        return deed(MARKET, i, n, NONE);
+        return begins(MARKET, i, n) ? perform(MARKET, i, n) : NONE;
     }
 
     public int lose(int i, int n) {
-        return deed(LOSE, i, n, NONE);
+        return begins(LOSE, i, n) ? perform(LOSE, i, n) : NONE;
     }
 
     public int borrow(int i, int n) {
-        return deed(BORROW, i, n, NONE);
+        return begins(BORROW, i, n) ? perform(BORROW, i, n) : NONE;
     }
 
     public int repay(int i, int n) {
-        return deed(REPAY, i, n, NONE);
+        return begins(REPAY, i, n) ? perform(REPAY, i, n) : NONE;
     }
 
     public int earn(int n) {
-        return deed(EARN, 0, n, OUTSIDE);
+        return begins(EARN, 0, n) ? perform(EARN, 0, n) : OUTSIDE;
     }
 
     public int close() {
-        return deed(CLOSE, 0, 0, NONE);
+        return begins(CLOSE, 0, 0) ? perform(CLOSE, 0, 0) : NONE;
     }
 
     public int step(int p, int what) {
@@ -254,7 +254,7 @@ public final class PartnerBooks {
 
     public int specials() {
         Specials fresh = new Specials();
-        int told = fresh.readFrom(tape);
+        int told = fresh.readSpecials(tape);
         tapeWasRead();
         if (told != NONE) {
             remember();
@@ -277,7 +277,7 @@ public final class PartnerBooks {
     }
 
     public int acts() {
-        int count = batch.readFrom(tape);
+        int count = batch.readActs(tape);
         tapeWasRead();
         if (count == NONE) {
             return NONE;
@@ -325,7 +325,7 @@ public final class PartnerBooks {
             return NONE;
         }
         for (int n = 1; n <= m; n++) {
-            paper.copyFrom(now.books);
+            paper.copyBooks(now.books);
             closeOnPaper(-n);
             if (paperSteps.leftover > 0) {
                 return n;
@@ -354,7 +354,12 @@ public final class PartnerBooks {
     }
 
     public int tried(int p, int n) {
-        return years(p, n, 1);
+        if (n < -MOST_SUM || n > MOST_SUM || !now.books.hasPartner(p)) {
+            return OUTSIDE;
+        }
+        paper.copyBooks(now.books);
+        closeOnPaper(n);
+        return paper.capital[p];
     }
 
     public int even(int p, int c, int m) {
@@ -362,7 +367,7 @@ public final class PartnerBooks {
             return NONE;
         }
         for (int n = 0; n <= m; n++) {
-            paper.copyFrom(now.books);
+            paper.copyBooks(now.books);
             closeOnPaper(n);
             if (paper.capital[p] >= c) {
                 return n;
@@ -377,7 +382,7 @@ public final class PartnerBooks {
         }
         nextDeed = (nextDeed + MOST_DEEDS - 1) % MOST_DEEDS;
         deedCount--;
-        now.copyFrom(deeds[nextDeed]);
+        now.copyState(deeds[nextDeed]);
         return deedCount;
     }
 
@@ -397,7 +402,7 @@ public final class PartnerBooks {
         if (n < -MOST_SUM || n > MOST_SUM || many < 1 || many > MOST_YEARS || !now.books.hasPartner(p)) {
             return OUTSIDE;
         }
-        paper.copyFrom(now.books);
+        paper.copyBooks(now.books);
         for (int k = 0; k < many; k++) {
             closeOnPaper(n);
         }
@@ -408,7 +413,7 @@ public final class PartnerBooks {
         if (!now.books.hasPartner(p)) {
             return OUTSIDE;
         }
-        paper.copyFrom(now.books);
+        paper.copyBooks(now.books);
         closeOnPaper(0);
         desk.valueAnew(paper, now.tiers, paperSteps);
         return Math.max(paper.capital[p], -paper.duty[p]);
@@ -434,7 +439,7 @@ public final class PartnerBooks {
         if (kept[k] == null) {
             kept[k] = new State();
         }
-        kept[k].copyFrom(now);
+        kept[k].copyState(now);
         return true;
     }
 
@@ -443,7 +448,7 @@ public final class PartnerBooks {
             return false;
         }
         remember();
-        now.copyFrom(kept[k]);
+        now.copyState(kept[k]);
         return true;
     }
 
@@ -472,12 +477,13 @@ public final class PartnerBooks {
         return k >= 0 && k < statement.length ? statement.bytes[k] : NONE;
     }
 
-    private int deed(int kind, int who, int n, int refusal) {
+    /** Whether the deed may be done; if so, what was ahead of it is remembered. */
+    private boolean begins(int kind, int who, int n) {
         if (!isAllowed(kind, who, n)) {
-            return refusal;
+            return false;
         }
         remember();
-        return perform(kind, who, n);
+        return true;
     }
 
     private boolean isAllowed(int kind, int who, int n) {
@@ -512,8 +518,10 @@ public final class PartnerBooks {
             case MARKET: return replace(b.market, who, n);
             case PAY: return b.payIn(who, n);
             case DRAW: return b.payIn(who, -n);
-            case COME: return desk.letIn(who, n, b, now.tiers, now.steps);
-            case GO: return desk.letOut(who, b, now.tiers, now.steps);
+            case COME: return b.letIn(who, n, desk.valueAnew(b, now.tiers, now.steps));
+            case GO:
+                desk.valueAnew(b, now.tiers, now.steps);
+                return desk.letOut(who, b);
             case DUTY: return replace(b.duty, who, n);
             case RATIO: return replace(b.ratio, who, n);
             case SELL: return b.sellAsset(who);
@@ -522,7 +530,7 @@ public final class PartnerBooks {
     }
 
     private void remember() {
-        deeds[nextDeed].copyFrom(now);
+        deeds[nextDeed].copyState(now);
         nextDeed = (nextDeed + 1) % MOST_DEEDS;
         deedCount = Math.min(deedCount + 1, MOST_DEEDS);
     }
@@ -585,9 +593,9 @@ public final class PartnerBooks {
         Tiers tiers = new Tiers();
         Specials specials = new Specials();
 
-        void copyFrom(State other) {
-            books.copyFrom(other.books);
-            steps.copyFrom(other.steps);
+        void copyState(State other) {
+            books.copyBooks(other.books);
+            steps.copySteps(other.steps);
             tiers = other.tiers;
             specials = other.specials;
         }
@@ -610,7 +618,7 @@ public final class PartnerBooks {
         final int[] market = new int[EIGHT];
         final int[] debt = new int[EIGHT];
 
-        void copyFrom(Books other) {
+        void copyBooks(Books other) {
             partners = other.partners;
             assets = other.assets;
             cash = other.cash;
@@ -636,13 +644,19 @@ public final class PartnerBooks {
         }
 
         int net() {
-            return cash + total(book) - total(debt);
+            int sum = cash;
+            for (int i = 0; i < EIGHT; i++) {
+                sum += book[i] - debt[i];
+            }
+            return sum;
         }
 
         int held() {
             int sum = 0;
             for (int i = 0; i < EIGHT; i++) {
-                sum += Math.max(0, debt[i] - book[i]);
+                if (debt[i] > book[i]) {
+                    sum += debt[i] - book[i];
+                }
             }
             return sum;
         }
@@ -658,6 +672,14 @@ public final class PartnerBooks {
         void admit(int p) {
             partners |= 1 << p;
             ratio[p] = 1;
+        }
+
+        /** The first one has what all became more by, too. */
+        int letIn(int p, int n, int more) {
+            boolean isAlone = partners == 0;
+            admit(p);
+            capital[p] = isAlone ? more : 0;
+            return payIn(p, n);
         }
 
         void dismiss(int p) {
@@ -727,7 +749,7 @@ public final class PartnerBooks {
         int leftover;
         final int[] rows = new int[EIGHT * LEFTOVER];
 
-        void copyFrom(Steps other) {
+        void copySteps(Steps other) {
             known = other.known;
             leftover = other.leftover;
             System.arraycopy(other.rows, 0, rows, 0, rows.length);
@@ -763,12 +785,8 @@ public final class PartnerBooks {
             Arrays.fill(weights, 0, EIGHT, 1);
         }
 
-        int weightOf(int k, int p) {
-            return weights[k * EIGHT + p];
-        }
-
         /** How many tiers the text tells (0: it is empty), or NONE. */
-        int readFrom(Reader in) {
+        int readTiers(Reader in) {
             in.start();
             if (in.isAtEnd()) {
                 return 0;
@@ -846,19 +864,17 @@ public final class PartnerBooks {
         }
 
         int gift(int k, Books b) {
-            if (!b.hasPartner(receiver[k]) || b.result <= 0 || !isDue(k, b)) {
+            if (!b.hasPartner(receiver[k]) || b.result <= 0) {
                 return 0;
             }
-            return Math.max(0, Math.min(b.result, sumOf(k, b)));
-        }
-
-        private boolean isDue(int k, Books b) {
-            if (relation[k] == ALWAYS) {
-                return true;
+            if (relation[k] != ALWAYS) {
+                int left = evaluate(sumTo[k], leftTo[k], b);
+                int right = evaluate(leftTo[k], rightTo[k], b);
+                if (relation[k] == '<' ? left >= right : left <= right) {
+                    return 0;
+                }
             }
-            int left = evaluate(sumTo[k], leftTo[k], b);
-            int right = evaluate(leftTo[k], rightTo[k], b);
-            return relation[k] == '<' ? left < right : left > right;
+            return Math.max(0, Math.min(b.result, evaluate(sumFrom[k], sumTo[k], b)));
         }
 
         private int evaluate(int from, int to, Books b) {
@@ -894,7 +910,7 @@ public final class PartnerBooks {
         }
 
         /** How many specials the text tells, or NONE. */
-        int readFrom(Reader in) {
+        int readSpecials(Reader in) {
             in.start();
             for (int k = 0; k < MOST_SPECIALS && in.isWord("give"); k++) {
                 in.advance();
@@ -916,28 +932,21 @@ public final class PartnerBooks {
             relation[k] = ALWAYS;
             if (in.isWord("when")) {
                 in.advance();
-                if (!readWhen(in, k)) {
+                if (!readSum(in)) {
                     return false;
                 }
+                leftTo[k] = things;
+                if (!in.isSign('<') && !in.isSign('>')) {
+                    return in.refuse();
+                }
+                relation[k] = in.sign;
+                in.advance();
+                if (!readSum(in)) {
+                    return false;
+                }
+                rightTo[k] = things;
             }
             return in.needSign(';');
-        }
-
-        private boolean readWhen(Reader in, int k) {
-            if (!readSum(in)) {
-                return false;
-            }
-            leftTo[k] = things;
-            if (!in.isSign('<') && !in.isSign('>')) {
-                return in.refuse();
-            }
-            relation[k] = in.sign;
-            in.advance();
-            if (!readSum(in)) {
-                return false;
-            }
-            rightTo[k] = things;
-            return true;
         }
 
         private boolean readSum(Reader in) {
@@ -956,7 +965,7 @@ public final class PartnerBooks {
         }
 
         private boolean readThing(Reader in, char ahead) {
-            int its = kindOf(in);
+            int its = thingHere(in);
             if (its == NONE || things >= MOST_THINGS) {
                 return in.refuse();
             }
@@ -979,7 +988,7 @@ public final class PartnerBooks {
             return true;
         }
 
-        private static int kindOf(Reader in) {
+        private static int thingHere(Reader in) {
             if (in.isNumber()) {
                 return NUMBER;
             }
@@ -1027,7 +1036,7 @@ public final class PartnerBooks {
         }
 
         /** How many acts the text tells, or NONE. */
-        int readFrom(Reader in) {
+        int readActs(Reader in) {
             in.start();
             int count = 0;
             for (int k = 0; k < MOST_ACTS && !in.isAtEnd(); k++) {
@@ -1040,14 +1049,14 @@ public final class PartnerBooks {
         }
 
         private boolean readAct(Reader in, int k) {
-            kind[k] = kindOf(in);
+            kind[k] = actHere(in);
             who[k] = 0;
             sum[k] = 0;
             if (kind[k] == NONE) {
                 return in.refuse();
             }
             in.advance();
-            return readWho(in, k) && readSum(in, k) && in.needSign(';');
+            return readWho(in, k) && readAmount(in, k) && in.needSign(';');
         }
 
         private boolean readWho(Reader in, int k) {
@@ -1067,7 +1076,7 @@ public final class PartnerBooks {
             }
         }
 
-        private boolean readSum(Reader in, int k) {
+        private boolean readAmount(Reader in, int k) {
             if (kind[k] == CLOSE || kind[k] == GO) {
                 return true;
             }
@@ -1080,7 +1089,7 @@ public final class PartnerBooks {
             return n != NONE;
         }
 
-        private static int kindOf(Reader in) {
+        private static int actHere(Reader in) {
             if (in.isWord("close")) {
                 return CLOSE;
             }
@@ -1150,16 +1159,16 @@ public final class PartnerBooks {
             from = at;
             if (at >= length) {
                 kind = AT_END;
-            } else if (isLetter(bytes[at])) {
+            } else if (bytes[at] >= 'a' && bytes[at] <= 'z') {
                 kind = WORD;
-                while (at < length && isLetter(bytes[at])) {
+                while (at < length && bytes[at] >= 'a' && bytes[at] <= 'z') {
                     at++;
                 }
-            } else if (isDigit(bytes[at])) {
+            } else if (bytes[at] >= '0' && bytes[at] <= '9') {
                 kind = NUMBER;
                 value = 0;
-                while (at < length && isDigit(bytes[at])) {
-                    value = Math.min(value * 10 + bytes[at] - '0', TOO_MUCH);
+                while (at < length && bytes[at] >= '0' && bytes[at] <= '9') {
+                    value = value < TOO_MUCH ? value * 10 + bytes[at] - '0' : TOO_MUCH;
                     at++;
                 }
             } else {
@@ -1243,14 +1252,6 @@ public final class PartnerBooks {
             advance();
             return n;
         }
-
-        private static boolean isLetter(int c) {
-            return c >= 'a' && c <= 'z';
-        }
-
-        private static boolean isDigit(int c) {
-            return c >= '0' && c <= '9';
-        }
     }
 
     /** Where sums are dealt; its rows are used again by each call. */
@@ -1287,11 +1288,10 @@ public final class PartnerBooks {
             }
         }
 
-        private void dealEvenly(int sum, int among) {
+        private void weighEvenly(int among) {
             for (int p = 0; p < EIGHT; p++) {
                 weights[p] = among >> p & 1;
             }
-            deal(sum, weights);
         }
 
         private void dealByRatio(int sum, int[] ratio, int among) {
@@ -1300,28 +1300,20 @@ public final class PartnerBooks {
                 weights[p] = (among >> p & 1) == 0 ? 0 : ratio[p];
                 hasWeight |= weights[p] > 0;
             }
-            if (hasWeight) {
-                deal(sum, weights);
-            } else {
-                dealEvenly(sum, among);
+            if (!hasWeight) {
+                weighEvenly(among);
             }
+            deal(sum, weights);
         }
 
-        private boolean setTierWeights(Tiers t, int k, int among) {
+        /** Whether the tier has a weight of one there. */
+        private boolean weighByTier(Tiers t, int k, int among) {
             boolean hasWeight = false;
             for (int p = 0; p < EIGHT; p++) {
-                weights[p] = (among >> p & 1) == 0 ? 0 : t.weightOf(k, p);
+                weights[p] = (among >> p & 1) == 0 ? 0 : t.weights[k * EIGHT + p];
                 hasWeight |= weights[p] > 0;
             }
             return hasWeight;
-        }
-
-        private void dealByLast(int sum, Books b, Tiers t) {
-            if (setTierWeights(t, t.count - 1, b.partners)) {
-                deal(sum, weights);
-            } else {
-                dealEvenly(sum, b.partners);
-            }
         }
 
         void sellAll(int n, Books b, Tiers t) {
@@ -1329,7 +1321,7 @@ public final class PartnerBooks {
             tiersFilled = 0;
             int left = n;
             for (int k = 0; k < t.count - 1 && left > 0; k++) {
-                if (setTierWeights(t, k, b.partners)) {
+                if (weighByTier(t, k, b.partners)) {
                     int sum = Math.min(left, t.sums[k]);
                     deal(sum, weights);
                     addAll(given, parts);
@@ -1338,12 +1330,18 @@ public final class PartnerBooks {
                 }
             }
             leftForLast = left;
+            if (left == 0) {
+                return;
+            }
+            if (!weighByTier(t, t.count - 1, b.partners)) {
+                weighEvenly(b.partners);
+            }
             if (left > 0) {
-                dealByLast(left, b, t);
+                deal(left, weights);
                 addAll(given, parts);
                 tiersFilled++;
-            } else if (left < 0) {
-                dealByLast(-left, b, t);
+            } else {
+                deal(-left, weights);
                 takeAll(given, parts);
             }
         }
@@ -1511,16 +1509,8 @@ public final class PartnerBooks {
             return more;
         }
 
-        int letIn(int p, int n, Books b, Tiers t, Steps told) {
-            boolean isAlone = b.partners == 0;
-            int more = valueAnew(b, t, told);
-            b.admit(p);
-            b.capital[p] = isAlone ? more : 0;
-            return b.payIn(p, n);
-        }
-
-        int letOut(int p, Books b, Tiers t, Steps told) {
-            valueAnew(b, t, told);
+        /** Behind all being valued anew: answers what he has from cash. */
+        int letOut(int p, Books b) {
             int has = Math.max(b.capital[p], -b.duty[p]);
             int missing = has - b.capital[p];
             int share = b.share[p];

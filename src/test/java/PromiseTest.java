@@ -616,7 +616,8 @@ public final class PromiseTest {
         Check.same("borrow(0, MAX)", x.borrow(0, Integer.MAX_VALUE), NONE);
         Check.same("borrow(0, 0)", x.borrow(0, 0), NONE);
         Check.same("borrow(0, -1)", x.borrow(0, -1), NONE);
-        Check.same("borrow(0, 999992)", x.borrow(0, 999992), 1000000);
+        Check.same("borrow(0, 1)", x.borrow(0, 1), 9);
+        Check.same("borrow(0, 999991)", x.borrow(0, 999991), 1000000);
         Check.same("is(2)", x.is(2), -2 + 999992);
         Check.same("is(3)", x.is(3), 0);
         Check.same("borrow(0, 1)", x.borrow(0, 1), NONE);
@@ -770,6 +771,15 @@ public final class PromiseTest {
         x.close();
         // The second one sees what the first one gave.
         steps(x, 4, 4 + 8, 3);
+        Check.specials(x, "give b 5;give a 1;");
+        x.earn(1);
+        x.close();
+        steps(x, 4, 0, 1);
+        Check.specials(x, "give b 1;");
+        x.earn(5);
+        Check.same("special(0, 2)", x.special(0, 2), 1);
+        x.close();
+        steps(x, 4, 0, 1);
     }
 
     private static void closeFollowsTargets() {
@@ -796,6 +806,9 @@ public final class PromiseTest {
         Check.same("is(0)", x.is(0), 4);
         Check.same("close() with nothing", x.close(), 5);
         steps(x, 6, 0, 0, 0);
+        x.earn(1);
+        x.close();
+        steps(x, 6, 0, 1, 0);
         Check.same("close() without anybody", new PartnerBooks().close(), NONE);
     }
 
@@ -1255,6 +1268,8 @@ public final class PromiseTest {
         Check.same("partner(0, 0)", x.partner(0, 0), -8);
         Check.same("hand(0, 1, 100)", x.hand(0, 1, 100), -5);
         Check.same("he stays", x.partner(0, 0), 0);
+        x.pay(1, 205);
+        Check.same("hand(1, 0, 1)", x.hand(1, 0, 1), 2);
         Check.same("hand(0, 0, 50)", x.hand(0, 0, 50), OUT);
         Check.same("hand(0, 1, 0)", x.hand(0, 1, 0), OUT);
         Check.same("hand(0, 1, 101)", x.hand(0, 1, 101), OUT);
@@ -1294,6 +1309,8 @@ public final class PromiseTest {
         x.earn(131);
         Check.specials(x, "give a 5 when cash<106;");
         Check.same("cash is less, too", x.breaks(200), 131);
+        Check.same("one alone", books(5).breaks(9), 6);
+        Check.same("one alone, with nothing", books(0).breaks(1), 1);
     }
 
     private static void gain() {
@@ -1325,6 +1342,9 @@ public final class PromiseTest {
         Check.same("below()", x.below(), 2);
         x.duty(1, 1);
         Check.same("below()", x.below(), 0);
+        x.draw(0, 1);
+        Check.same("below()", x.below(), 1);
+        x.pay(0, 1);
         x.buy(4, 4, 4);
         x.lose(0, 4);
         x.close();
