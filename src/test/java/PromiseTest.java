@@ -149,6 +149,20 @@ public final class PromiseTest {
             Check.same("end(" + n + ")", x.end(n), NONE);
         }
         Check.same("is(11): end is no deed", x.is(11), 0);
+        // What was cut off is not read, though it would go on a word or a number.
+        Check.tape(x, "closeclose;         ");
+        x.end(5);
+        Check.same("acts() of a cut word", x.acts(), NONE);
+        Check.same("fault()", x.fault(), 5);
+        Check.tape(x, "earn 77;            ");
+        x.end(6);
+        x.feed(0x3b202020, 0x20202020, 0x20202020, 0x20202020, 0x20202020);
+        Check.same("acts() of a cut number", x.acts(), 1);
+        Check.same("is(1)", x.is(1), 7);
+        Check.tape(x, "earn 12345678;");
+        x.end(8);
+        Check.same("acts() of a cut number", x.acts(), NONE);
+        Check.same("fault()", x.fault(), 8);
     }
 
     private static void tiers() {
