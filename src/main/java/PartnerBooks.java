@@ -62,10 +62,10 @@ public final class PartnerBooks {
         desk = new Desk();
         batch = new Batch();
         statement = new Statement();
-        now = new State();
+        now = new State(new Tiers(), new Specials());
         deeds = new State[MOST_DEEDS];
         for (int k = 0; k < MOST_DEEDS; k++) {
-            deeds[k] = new State();
+            deeds[k] = new State(now.tiers, now.specials);
         }
         kept = new State[KEPT_PLACES];
         paper = new Books();
@@ -437,7 +437,7 @@ public final class PartnerBooks {
             return false;
         }
         if (kept[k] == null) {
-            kept[k] = new State();
+            kept[k] = new State(now.tiers, now.specials);
         }
         kept[k].copyState(now);
         return true;
@@ -590,8 +590,13 @@ public final class PartnerBooks {
         final Books books = new Books();
         final Steps steps = new Steps();
         // A text that was read is never changed later, so states may share it.
-        Tiers tiers = new Tiers();
-        Specials specials = new Specials();
+        Tiers tiers;
+        Specials specials;
+
+        State(Tiers tiers, Specials specials) {
+            this.tiers = tiers;
+            this.specials = specials;
+        }
 
         void copyState(State other) {
             books.copyBooks(other.books);
@@ -1269,10 +1274,10 @@ public final class PartnerBooks {
         private void deal(int sum, int[] by) {
             Arrays.fill(parts, 0);
             long all = 0;
-            for (int k = 0; k < EIGHT; k++) {
+            for (int k = 0; k < EIGHT && sum > 0; k++) {
                 all += Math.max(0, by[k]);
             }
-            if (sum <= 0 || all <= 0) {
+            if (all <= 0) {
                 return;
             }
             int left = sum;
@@ -1369,38 +1374,48 @@ public final class PartnerBooks {
         }
 
         private void chargeBack(Books b, int fall, Steps told) {
-            if (fall > 0) {
-                deal(Math.min(fall, total(b.share)), b.share);
+            int less = Math.min(fall, total(b.share));
+            if (less > 0) {
+                deal(less, b.share);
                 takeAll(b.share, parts);
                 addAll(b.owed, parts);
                 told.putRow(SHARE_LESS, parts);
             }
-            int sum = Math.max(0, Math.min(b.result, total(b.owed)));
-            deal(sum, b.owed);
-            addAll(b.capital, parts);
-            takeAll(b.owed, parts);
-            b.result -= sum;
-            told.putRow(CHARGED, parts);
+            int sum = Math.min(b.result, total(b.owed));
+            if (sum > 0) {
+                deal(sum, b.owed);
+                addAll(b.capital, parts);
+                takeAll(b.owed, parts);
+                b.result -= sum;
+                told.putRow(CHARGED, parts);
+            }
         }
 
         private void takeDebtLoss(Books b, int rise, Steps told) {
-            int sum = Math.max(0, Math.min(rise, -b.result));
-            dealByRatio(sum, b.ratio, b.partners);
-            takeAll(b.capital, parts);
-            addAll(b.share, parts);
-            b.result += sum;
-            told.putRow(DEBT_LOSS, parts);
+            int sum = Math.min(rise, -b.result);
+            if (sum > 0) {
+                dealByRatio(sum, b.ratio, b.partners);
+                takeAll(b.capital, parts);
+                addAll(b.share, parts);
+                b.result += sum;
+                told.putRow(DEBT_LOSS, parts);
+            }
         }
 
         private void cure(Books b, Steps told) {
+            if (b.result <= 0) {
+                return;
+            }
             for (int p = 0; p < EIGHT; p++) {
                 weights[p] = b.hasPartner(p) ? Math.max(0, b.floorOf(p) - b.capital[p]) : 0;
             }
-            int sum = Math.max(0, Math.min(b.result, total(weights)));
-            deal(sum, weights);
-            addAll(b.capital, parts);
-            b.result -= sum;
-            told.putRow(CURED, parts);
+            int sum = Math.min(b.result, total(weights));
+            if (sum > 0) {
+                deal(sum, weights);
+                addAll(b.capital, parts);
+                b.result -= sum;
+                told.putRow(CURED, parts);
+            }
         }
 
         private void giveSpecials(Books b, Specials s, Steps told) {
