@@ -282,13 +282,12 @@ public final class PartnerBooks {
         if (count == NONE) {
             return NONE;
         }
-        remember();
         batch.startRows();
         for (int k = 0; k < count; k++) {
             int kind = batch.kind[k];
             int who = batch.who[k];
             int n = batch.sum[k];
-            if (!isAllowed(kind, who, n)) {
+            if (!begins(kind, who, n)) {
                 batch.endedBy = k;
                 break;
             }

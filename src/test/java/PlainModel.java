@@ -602,20 +602,27 @@ final class PlainModel {
 
     /** The calls that may be acts too, and those like them: refused ones leave no deed. */
     private long change(String name, int[] a) {
-        World was = world.copy();
         int who = a.length > 0 ? a[0] : 0;
         int n = a.length > 1 ? a[1] : 0;
         if (name.equals("earn")) {
             n = a[0];
             who = 0;
         }
-        Long answer = act(name, who, n);
+        Long answer = actAsDeed(name, who, n);
         if (answer == null) {
             return List.of("go", "pay", "draw", "sell", "earn").contains(name) ? OUT : NONE;
         }
-        deeds.addLast(was);
-        if (deeds.size() > 12) {
-            deeds.removeFirst();
+        return answer;
+    }
+
+    private Long actAsDeed(String name, int who, int n) {
+        World was = world.copy();
+        Long answer = act(name, who, n);
+        if (answer != null) {
+            deeds.addLast(was);
+            if (deeds.size() > 12) {
+                deeds.removeFirst();
+            }
         }
         return answer;
     }
@@ -790,11 +797,10 @@ final class PlainModel {
             return NONE;
         }
         fault = NONE;
-        deed();
         ended = NONE;
         rows = new ArrayList<>();
         for (Act act : read) {
-            Long answer = act(act.word, act.who, act.sum);
+            Long answer = actAsDeed(act.word, act.who, act.sum);
             if (answer == null) {
                 ended = rows.size();
                 break;

@@ -1156,10 +1156,18 @@ public final class PromiseTest {
         Check.same("is(6)", x.is(6), 1);
         Check.same("is(0)", x.is(0), 1);
         Check.same("is(12)", x.is(12), 0);
-        Check.same("is(11): one deed", x.is(11), 3);
-        x.back();
-        Check.same("is(0) taken back", x.is(0), 0);
-        Check.same("asset(0, 0) taken back", x.asset(0, 0), 50);
+        Check.same("is(11): each act a deed, the latest twelve", x.is(11), 12);
+        Check.same("back()", x.back(), 11);
+        Check.same("go taken back", x.is(6), 3);
+        Check.same("close stays", x.is(0), 1);
+        for (int k = 10; k >= 1; k--) {
+            Check.same("back()", x.back(), k);
+        }
+        Check.same("close taken back", x.is(0), 0);
+        Check.same("lose taken back", x.asset(0, 0), 50);
+        Check.same("come taken back", x.is(6), 1);
+        Check.same("what was ahead of the acts stays", x.is(7), 1);
+        actsAsDeeds();
         Check.same("till one is refused", Check.acts(x, "earn 1;go a;earn 1;"), 1);
         Check.same("is(1)", x.is(1), 1);
         Check.same("a fault", Check.acts(x, "earn 1;earn;"), NONE);
@@ -1184,6 +1192,38 @@ public final class PromiseTest {
         Check.same("acts that tell -1", Check.acts(y, "earn - 1;earn 1;draw a 6;close;"), 4);
         Check.same("row(0)", y.row(0), -1);
         Check.same("row(2)", y.row(2), -1);
+    }
+
+    private static void actsAsDeeds() {
+        PartnerBooks x = new PartnerBooks();
+        Check.same("empty", Check.acts(x, ""), 0);
+        Check.same("is(11): nothing was done", x.is(11), 0);
+        Check.same("back()", x.back(), NONE);
+        x.come(0, 0);
+        Check.same("refused at once", Check.acts(x, "go b;earn 1;"), 0);
+        Check.same("is(11): nothing was done", x.is(11), 1);
+        Check.same("three", Check.acts(x, "earn 10;pay a 5;close;go b;earn - 3;"), 3);
+        Check.same("is(11)", x.is(11), 4);
+        Check.same("step(0, 5)", x.step(0, 5), 10);
+        Check.same("back()", x.back(), 3);
+        Check.same("close alone is taken back", x.is(1), 10);
+        Check.same("step(0, 5) with it", x.step(0, 5), 0);
+        Check.same("pay stays", x.partner(0, 0), 5);
+        Check.same("ended() stays", x.ended(), 3);
+        Check.same("row(2) stays", x.row(2), 1);
+        Check.same("come is refused", Check.acts(x, "come b 10;"), 0);
+        Check.same("ended()", x.ended(), 0);
+        Check.same("back()", x.back(), 2);
+        Check.same("pay is taken back", x.partner(0, 0), 0);
+        Check.same("back()", x.back(), 1);
+        Check.same("earn is taken back", x.is(1), 0);
+        Check.acts(x, "earn 1;earn 1;earn 1;earn 1;earn 1;earn 1;earn 1;earn 1;earn 1;earn 1;earn 1;earn 1;earn 1;");
+        Check.same("is(11)", x.is(11), 12);
+        for (int k = 11; k >= 0; k--) {
+            Check.same("back()", x.back(), k);
+            Check.same("is(1)", x.is(1), k + 1);
+        }
+        Check.same("back()", x.back(), NONE);
     }
 
     private static void actsFault(String text, int due) {
@@ -1471,11 +1511,11 @@ public final class PromiseTest {
         x.restore(0);
         x.keep(1);
         x.restore(1);
-        Check.same("is(11)", x.is(11), 11);
-        for (int k = 0; k < 9; k++) {
+        Check.same("is(11)", x.is(11), 12);
+        for (int k = 0; k < 10; k++) {
             x.back();
         }
-        Check.yes("nine deeds taken back", was.equals(picture(x)));
+        Check.yes("ten deeds more taken back", was.equals(picture(x)));
     }
 
     private static String picture(PartnerBooks x) {
