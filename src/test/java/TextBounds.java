@@ -98,7 +98,8 @@ final class TextBounds extends Bounds {
         PartnerBooks x = new PartnerBooks();
         for (int p = 0; p < 8; p++) {
             char letter = (char) ('a' + p);
-            Check.same("give " + letter, Check.specials(x, "give " + letter + " capital " + letter + "+share " + letter + ";"), 1);
+            String text = "give " + letter + " capital " + letter + "+share " + letter + ";";
+            Check.same("specials() of " + text, Check.specials(x, text), 1);
             Check.same("special(0, 0)", x.special(0, 0), p);
         }
         specialsFault("give i 1;", 5);
